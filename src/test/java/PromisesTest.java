@@ -20,6 +20,7 @@ public final class PromisesTest {
     promise11Shedding();
     promise11Serving();
     promise11Batteries();
+    promise11Taking();
     promise11Reasons();
     promise12();
     promise13();
@@ -179,8 +180,8 @@ public final class PromisesTest {
     // A house begins anew, whatever stood at its place.
     MeterPool y = rich(0, 10);
     y.setHouse(0, 2, 9);
+    due("it got something", y.run(1), 10);
     y.setHouse(0, 3, 0);
-    y.run(1);
     y.removeHouse(0);
     y.addHouse(1, 7);
     row("new at an old place", houseRow(y, 0), 1, 7, 0, 1, 0, 5, 0, 0, 0, 0, 0);
@@ -230,6 +231,11 @@ public final class PromisesTest {
     row("the loan follows again", loanRow(x, 0), 0, 1, 20);
     row("owed", ofAll(x, 9), 0, 20);
     row("owed to", ofAll(x, 10), 20, 0);
+    x.remit(0);
+    x.addHouse(0, 9);
+    x.lend(1, 0, 5);
+    due("one behind both", x.removeHouse(2), 2);
+    row("the loan stays", loanRow(x, 0), 1, 0, 5);
     x.remit(0);
     due("free of loans", x.removeHouse(1), 1);
     due("the last", x.removeHouse(0), 0);
@@ -300,6 +306,19 @@ public final class PromisesTest {
     x.set(1, 0);
     due("nothing for the debt", x.buy(1, 10), 520);
     due("debt stays", x.house(1, 2), 50);
+    // 500 * 40 / 100 = 200 for the debt; 300 * 50 / 100 = 150 for the loan, of which 1 is left.
+    MeterPool y = rich(0, 5, 0, 5);
+    y.lend(0, 1, 151);
+    y.setHouse(1, 2, 1000);
+    due("a great token", y.buy(1, 500), 801);
+    due("of the debt", y.house(1, 2), 800);
+    row("of the loan", loanRow(y, 0), 0, 1, 1);
+    due("to the lender", y.house(0, 4), 499);
+    // 67 * 3 / 100 and 65 * 3 / 100 are rounded down.
+    y.set(1, 3);
+    y.set(2, 3);
+    due("rounded down", y.buy(1, 67), 865);
+    due("the loan is gone", y.count(1), 0);
   }
 
   private static void promise6() {
@@ -502,6 +521,10 @@ public final class PromisesTest {
     row("feeder 1 was not", feederRow(x, 1), 1, 0, 496, 2, 0);
     row("feeder 2 was", feederRow(x, 2), 1, 11, 484, 3, 1);
     due("the turn came round", x.count(4), 1);
+    MeterPool z = rich(0, 20, 1, 1);
+    due("a single unit is shed", z.run(1), 20);
+    row("feeder 1 for 1", feederRow(z, 1), 1, 1, 500, 1, 1);
+    due("one turn", z.count(4), 2);
     MeterPool y = rich(0, 30);
     due("none can be shed", y.run(1), 20);
     due("not counted", y.feeder(0, 3) + y.feeder(1, 3) + y.feeder(2, 3), 0);
@@ -530,6 +553,12 @@ public final class PromisesTest {
     row("the first alone", ofAll(y, 6), 20, 0, 0);
     row("credits", ofAll(y, 4), 435, 495, 491);
     row("got in all", ofAll(y, 8), 65, 5, 9);
+    // 49 * 41 / 100 is 20.09: 20 are too little.
+    MeterPool w = rich(0, 49);
+    w.set(3, 41);
+    due("20 of 49", w.run(1), 0);
+    w.set(3, 40);
+    due("20 of 49 again", w.run(1), 20);
     // 19 of 38 is half, 19 of 39 is not.
     MeterPool z = rich(0, 38);
     supply(z, "19");
@@ -584,6 +613,36 @@ public final class PromisesTest {
     z.setBattery(0, 2, 100);
     z.run(1);
     row("none", accounts(z), 80, 0, 3, 67, 0, 10, 0, 0);
+  }
+
+  private static void promise11Taking() {
+    // 100 * 100 / 100 fit into 100, and at 99 percent a full battery still takes 1.
+    MeterPool x = new MeterPool();
+    supply(x, "150");
+    x.setBattery(0, 0, 100);
+    x.setBattery(0, 1, 100);
+    x.setBattery(0, 2, 100);
+    x.setBattery(1, 2, 99);
+    x.run(1);
+    row("all into the one", accounts(x), 150, 0, 1, 49, 0, 100, 0, 0);
+    x.setBattery(0, 2, 99);
+    x.run(1);
+    row("both are full", accounts(x), 300, 0, 3, 197, 0, 100, 0, 0);
+    // 90 percent into 35: 39 * 90 / 100 is 35, 40 are 36.
+    MeterPool y = new MeterPool();
+    supply(y, "80");
+    y.setBattery(0, 0, 35);
+    y.setBattery(0, 1, 100);
+    y.setBattery(1, 0, 500);
+    y.setBattery(1, 1, 30);
+    y.run(1);
+    row("39 and 30", accounts(y), 80, 0, 4 + 3, 11, 0, 35 + 27, 0, 0);
+    // What is left may be less than either would take.
+    supply(y, "7");
+    y.setBattery(0, 0, 500);
+    y.run(1);
+    row("7 for 6", accounts(y), 87, 0, 8, 11, 0, 68, 0, 0);
+    due("in battery 0", y.battery(0, 3), 41);
   }
 
   private static void promise11Reasons() {
@@ -673,7 +732,7 @@ public final class PromisesTest {
       fault(text, NONE);
     }
     // Not whole, but a list may begin so: the length.
-    String[] begun = {"", "5,", "5*", "5*1", "5*2,", "5*47,", "5*46,3*", "5*38,3*1", "500*"};
+    String[] begun = {"", "5,", "5*", "5*1", "5*2,", "5*47,", "5*46,3*", "5*46,3,", "5*38,3*1", "500*"};
     for (String text : begun) {
       fault(text, text.length());
     }
@@ -751,21 +810,44 @@ public final class PromisesTest {
     due("the run", y.undo(), states);
     due("before the run", y.digest(), before);
     y.lend(0, 1, 50);
-    y.undo();
+    undone("lend", y, before);
     y.buy(1, 50);
-    y.undo();
-    y.set(0, 9);
-    y.undo();
-    y.setBattery(0, 0, 70);
-    y.undo();
-    y.setHouse(0, 2, 70);
-    y.undo();
+    undone("buy", y, before);
+    for (int setting = 0; setting < 4; setting++) {
+      y.set(setting, 9);
+      undone("set " + setting, y, before);
+    }
+    for (int what = 0; what < 3; what++) {
+      y.setBattery(1, what, 70);
+      undone("setBattery " + what, y, before);
+    }
+    int[] values = {2, 7, 70, 0};
+    for (int what = 0; what < 4; what++) {
+      y.setHouse(0, what, values[what]);
+      undone("setHouse " + what, y, before);
+    }
     y.removeHouse(0);
-    y.undo();
-    y.type('7');
+    undone("removeHouse", y, before);
+    y.addHouse(0, 4);
+    undone("addHouse", y, before);
+    typeAll(y, "7,9*3");
     y.load();
-    y.undo();
-    due("before them all", y.digest(), before);
+    undone("load", y, before);
+    // Loans, hours and what was shed come back as well.
+    y.lend(0, 1, 50);
+    y.lend(1, 0, 20);
+    y.run(1);
+    due("feeder 1 was shed", y.feeder(1, 4), 1);
+    before = y.digest();
+    y.net();
+    undone("net", y, before);
+    y.remit(0);
+    undone("remit", y, before);
+    y.buy(1, 90);
+    undone("buy with a loan", y, before);
+    y.run(1);
+    due("feeder 1 was not shed", y.feeder(1, 4), 0);
+    undone("run", y, before);
     // Neither the text nor the images come back.
     y.run(1);
     y.keep(1);
@@ -773,7 +855,13 @@ public final class PromisesTest {
     y.undo();
     due("images stay", y.count(6), 2);
     due("the text stays", y.clear(), 1);
-    due("the image is what it was", y.back(1), 1);
+    due("the image is what it was", y.back(1), 2);
+  }
+
+  private static void undone(String call, MeterPool x, long before) {
+    check.holds(call + " changes the digest", x.digest() != before);
+    x.undo();
+    due("before " + call, x.digest(), before);
   }
 
   private static void promise17() {
@@ -919,6 +1007,11 @@ public final class PromisesTest {
     row("giving and charging", accounts(x), 62, 30, 9 + 8 + 1, 2, 0, 12, 550, 20);
     x.setBattery(0, 0, 5);
     row("discarding", accounts(x), 62, 30, 18, 2, 7, 5, 550, 20);
+    x.setBattery(1, 0, 10);
+    x.setBattery(1, 1, 10);
+    x.setBattery(0, 1, 0);
+    x.run(2);
+    row("the charge of both", accounts(x), 93, 40, 19, 13, 7, 14, 550, 20);
     due("-1", x.account(-1), BAD);
     due("8", x.account(8), BAD);
     due("low", x.account(LOW), BAD);
@@ -951,6 +1044,9 @@ public final class PromisesTest {
     x.keep(1);
     supply(x, "7*5");
     row("counts", counts(x), 3, 1, 1, 5, 1, 7, 2, 1);
+    x.buy(2, 5);
+    due("no credit is not negative", x.house(2, 4) + x.count(7), 0);
+    x.undo();
     due("-1", x.count(-1), BAD);
     due("8", x.count(8), BAD);
     due("low", x.count(LOW), BAD);
@@ -998,6 +1094,8 @@ public final class PromisesTest {
         40, 2, 0, 0, 0);
     due("nothing changed", x.digest(), before);
     due("no change", x.count(5), 8);
+    MeterPool z = rich(0, 10, 1, 12);
+    row("feeder 1 alone", new int[] {z.ifRun(1, 0), z.ifRun(1, 1), z.ifRun(2, 1), z.ifRun(2, 0)}, 10, 1, 2, 20);
     int[][] wrong = {{0, 0}, {101, 0}, {-1, 0}, {LOW, 0}, {HIGH, 0}, {1, -1}, {1, 5}, {1, HIGH}};
     for (int[] a : wrong) {
       due("ifRun " + a[0] + " " + a[1], x.ifRun(a[0], a[1]), BAD);
@@ -1049,6 +1147,11 @@ public final class PromisesTest {
     x.setHouse(0, 1, 11);
     due("more than 500", x.tokenFor(0, 48), NONE);
     due("505 less the overdraft", x.tokenFor(0, 45), 490);
+    x.set(0, 0);
+    x.setHouse(0, 1, 20);
+    due("just 500", x.tokenFor(0, 25), 500);
+    due("one more", x.tokenFor(0, 26), NONE);
+    x.set(0, 5);
     x.setHouse(0, 1, 5);
     due("none is needed", x.tokenFor(0, 1), 0);
     x.setHouse(0, 2, 1000);
@@ -1139,19 +1242,21 @@ public final class PromisesTest {
     System.arraycopy(tail, 0, all, head.length, tail.length);
     due("full", x.digest(), hash(all));
     due("nothing changed", x.digest(), hash(all));
-    // The bits of met for shares below and above 1.
-    for (int demand = 1; demand <= 50; demand++) {
-      MeterPool y = new MeterPool();
-      y.addHouse(0, 7);
-      y.buy(0, 100);
-      y.run(1);
-      y.setHouse(0, 1, demand);
-      Model m = new Model();
-      m.addHouse(0, 7);
-      m.buy(0, 100);
-      m.run(1);
-      m.setHouse(0, 1, demand);
-      due("7 of " + demand, y.digest(), m.digest());
+    // The bits of met: for no share at all, and for shares below, at and above powers of 2.
+    for (int got = 0; got <= 8; got += got < 3 ? 1 : 5) {
+      for (int demand = 0; demand <= 50; demand++) {
+        MeterPool y = new MeterPool();
+        Model m = new Model();
+        y.addHouse(0, got);
+        m.addHouse(0, got);
+        y.buy(0, 100);
+        m.buy(0, 100);
+        y.run(1);
+        m.run(1);
+        y.setHouse(0, 1, demand);
+        m.setHouse(0, 1, demand);
+        due(got + " of " + demand, y.digest(), m.digest());
+      }
     }
   }
 
