@@ -251,7 +251,7 @@ public final class MeterPool {
       case 1:
         return now.houses.drawnFrom(feeder, now.settings[OVERDRAFT]);
       case 2:
-        return now.houses.creditOf(feeder);
+        return now.houses.sumFrom(feeder, now.houses.credit);
       case 3:
         return now.shedHours[feeder];
       default:
@@ -336,8 +336,8 @@ public final class MeterPool {
   }
 
   public double met() {
-    int demand = now.houses.demandOfAll();
-    return demand > 0 ? (double) now.houses.gotByAll() / (double) demand : 1.0;
+    int demand = now.houses.sum(now.houses.demand);
+    return demand > 0 ? (double) now.houses.sum(now.houses.got) / (double) demand : 1.0;
   }
 
   public long digest() {
@@ -599,18 +599,18 @@ public final class MeterPool {
       }
     }
 
-    int wantedByAll() {
+    int sum(int[] row) {
       int sum = 0;
       for (int house = 0; house < size; house++) {
-        sum += wants[house];
+        sum += row[house];
       }
       return sum;
     }
 
-    int wantedFrom(int itsFeeder) {
+    int sumFrom(int itsFeeder, int[] row) {
       int sum = 0;
       for (int house = 0; house < size; house++) {
-        sum += feeder[house] == itsFeeder ? wants[house] : 0;
+        sum += feeder[house] == itsFeeder ? row[house] : 0;
       }
       return sum;
     }
@@ -659,22 +659,6 @@ public final class MeterPool {
       return houses;
     }
 
-    int gotByAll() {
-      int sum = 0;
-      for (int house = 0; house < size; house++) {
-        sum += got[house];
-      }
-      return sum;
-    }
-
-    int demandOfAll() {
-      int sum = 0;
-      for (int house = 0; house < size; house++) {
-        sum += demand[house];
-      }
-      return sum;
-    }
-
     int sizeOf(int itsFeeder) {
       int houses = 0;
       for (int house = 0; house < size; house++) {
@@ -687,14 +671,6 @@ public final class MeterPool {
       int sum = 0;
       for (int house = 0; house < size; house++) {
         sum += feeder[house] == itsFeeder ? canDraw(house, overdraft) : 0;
-      }
-      return sum;
-    }
-
-    int creditOf(int itsFeeder) {
-      int sum = 0;
-      for (int house = 0; house < size; house++) {
-        sum += feeder[house] == itsFeeder ? credit[house] : 0;
       }
       return sum;
     }
@@ -759,17 +735,17 @@ public final class MeterPool {
     }
 
     int owedBy(int house) {
-      int sum = 0;
-      for (int loan = 0; loan < size; loan++) {
-        sum += borrower[loan] == house ? owed[loan] : 0;
-      }
-      return sum;
+      return sumOwed(borrower, house);
     }
 
     int owedTo(int house) {
+      return sumOwed(lender, house);
+    }
+
+    private int sumOwed(int[] side, int house) {
       int sum = 0;
       for (int loan = 0; loan < size; loan++) {
-        sum += lender[loan] == house ? owed[loan] : 0;
+        sum += side[loan] == house ? owed[loan] : 0;
       }
       return sum;
     }
@@ -1042,8 +1018,8 @@ public final class MeterPool {
       for (int feeder = 0; feeder < FEEDERS; feeder++) {
         shedLatest[feeder] = 0;
       }
-      for (int round = 0; round < 2 && houses.wantedByAll() > available; round++) {
-        if (houses.wantedFrom(turn) > 0) {
+      for (int round = 0; round < 2 && houses.sum(houses.wants) > available; round++) {
+        if (houses.sumFrom(turn, houses.wants) > 0) {
           houses.wantNothing(turn);
           shedLatest[turn] = 1;
           shedHours[turn]++;

@@ -44,6 +44,7 @@ public final class PromisesTest {
     promise31();
     changes();
     noChanges();
+    fullVillage();
     check.end();
   }
 
@@ -185,6 +186,11 @@ public final class PromisesTest {
     y.removeHouse(0);
     y.addHouse(1, 7);
     row("new at an old place", houseRow(y, 0), 1, 7, 0, 1, 0, 5, 0, 0, 0, 0, 0);
+    y.run(1);
+    due("it had a reason", y.house(0, 7), 2);
+    y.removeHouse(0);
+    y.addHouse(1, 7);
+    row("new there again", houseRow(y, 0), 1, 7, 0, 1, 0, 5, 0, 0, 0, 0, 0);
   }
 
   private static void promise3() {
@@ -1324,5 +1330,43 @@ public final class PromisesTest {
     x.feeder(0, 1);
     due("nothing changed", x.digest(), before);
     due("nothing was recorded", x.count(5), 5);
+  }
+
+  /** As many houses, loans, numbers and states as there can be. */
+  private static void fullVillage() {
+    MeterPool x = new MeterPool();
+    Model m = new Model();
+    for (int i = 0; i < 10; i++) {
+      x.addHouse(i % 3, 5 * i);
+      m.addHouse(i % 3, 5 * i);
+      x.buy(i, 50 * i + 12);
+      m.buy(i, 50 * i + 12);
+    }
+    for (int i = 0; i < 12; i++) {
+      x.lend(9 - i / 2, (i + 5) % 10 == 9 - i / 2 ? 0 : (i + 5) % 10, 3 + i);
+      m.lend(9 - i / 2, (i + 5) % 10 == 9 - i / 2 ? 0 : (i + 5) % 10, 3 + i);
+    }
+    due("loans", x.count(1), 12);
+    String text = "90*40,500,0,77*6";
+    for (int i = 0; i < text.length(); i++) {
+      x.type(text.charAt(i));
+      m.type(text.charAt(i));
+    }
+    due("list", x.load(), m.load());
+    due("full", x.digest(), m.digest());
+    due("an hour", x.run(1), m.run(1));
+    due("many hours", x.run(100), m.run(100));
+    for (int house = 0; house < 10; house++) {
+      due("token", x.tokenFor(house, 3), m.tokenFor(house, 3));
+      due("dark", x.darkIn(house), m.darkIn(house));
+      due("debt", x.setHouse(house, 2, 40 * house), m.setHouse(house, 2, 40 * house));
+      due("buy", x.buy(house, 100), m.buy(house, 100));
+      due("as the model", x.digest(), m.digest());
+    }
+    due("nets", x.net(), m.net());
+    for (int house = 9; house >= 0; house--) {
+      due("remove " + house, x.removeHouse(house), m.removeHouse(house));
+    }
+    due("in the end", x.digest(), m.digest());
   }
 }
