@@ -1,10 +1,5 @@
 /** One method for each promise of the document: ordinary inputs, the edges that it names, and wrong inputs. */
-public final class PromisesTest {
-  private static final int NONE = MeterPool.NONE, BAD = MeterPool.BAD, STATE = MeterPool.STATE, FULL = MeterPool.FULL;
-  private static final int LOW = Integer.MIN_VALUE, HIGH = Integer.MAX_VALUE;
-
-  private static final Check check = new Check();
-
+public final class PromisesTest extends PoolChecks {
   public static void main(String[] args) {
     promise1();
     promise2();
@@ -46,92 +41,6 @@ public final class PromisesTest {
     noChanges();
     fullVillage();
     check.end();
-  }
-
-  private static void due(String call, long got, long want) {
-    check.due(call, got, want);
-  }
-
-  /** Texts are typed as a whole here. */
-  private static void typeAll(MeterPool x, String text) {
-    for (int i = 0; i < text.length(); i++) {
-      due("type " + i + " of " + text, x.type(text.charAt(i)), i + 1);
-    }
-  }
-
-  private static void supply(MeterPool x, String text) {
-    typeAll(x, text);
-    check.holds("load of " + text, x.load() > 0);
-  }
-
-  /** Houses with a lot of credit: pairs of a feeder and a demand. */
-  private static MeterPool rich(int... feedersAndDemands) {
-    MeterPool x = new MeterPool();
-    for (int i = 0; i < feedersAndDemands.length; i += 2) {
-      due("addHouse", x.addHouse(feedersAndDemands[i], feedersAndDemands[i + 1]), i / 2);
-      due("buy", x.buy(i / 2, 500), 500);
-    }
-    return x;
-  }
-
-  private static void row(String name, int[] got, int... want) {
-    due(name + " length", got.length, want.length);
-    for (int i = 0; i < got.length && i < want.length; i++) {
-      due(name + " at " + i, got[i], want[i]);
-    }
-  }
-
-  private static int[] counts(MeterPool x) {
-    int[] row = new int[8];
-    for (int i = 0; i < row.length; i++) {
-      row[i] = x.count(i);
-    }
-    return row;
-  }
-
-  private static int[] accounts(MeterPool x) {
-    int[] row = new int[8];
-    for (int i = 0; i < row.length; i++) {
-      row[i] = x.account(i);
-    }
-    return row;
-  }
-
-  private static int[] houseRow(MeterPool x, int house) {
-    int[] row = new int[11];
-    for (int i = 0; i < row.length; i++) {
-      row[i] = x.house(house, i);
-    }
-    return row;
-  }
-
-  private static int[] loanRow(MeterPool x, int loan) {
-    return new int[] {x.loan(loan, 0), x.loan(loan, 1), x.loan(loan, 2)};
-  }
-
-  private static int[] batteryRow(MeterPool x, int battery) {
-    int[] row = new int[5];
-    for (int i = 0; i < row.length; i++) {
-      row[i] = x.battery(battery, i);
-    }
-    return row;
-  }
-
-  private static int[] feederRow(MeterPool x, int feeder) {
-    int[] row = new int[5];
-    for (int i = 0; i < row.length; i++) {
-      row[i] = x.feeder(feeder, i);
-    }
-    return row;
-  }
-
-  /** The property of all houses. */
-  private static int[] ofAll(MeterPool x, int what) {
-    int[] row = new int[x.count(0)];
-    for (int i = 0; i < row.length; i++) {
-      row[i] = x.house(i, what);
-    }
-    return row;
   }
 
   private static void promise1() {
