@@ -934,7 +934,7 @@ public final class MeterPool {
     }
 
     int supplyOf(int itsHour) {
-      return listSize > 0 ? list[itsHour % listSize] : 0;
+      return listSize > 0 ? list[Math.floorMod(itsHour, listSize)] : 0;
     }
 
     int timesShed() {

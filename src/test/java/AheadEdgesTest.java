@@ -43,6 +43,7 @@ public final class AheadEdgesTest extends PoolChecks {
     digestOfANewOne();
     digestOfEverything();
     digestTellsEachCharacter();
+    digestTellsTheShareMet();
     digestWrapsRound();
     check.end();
   }
@@ -634,6 +635,44 @@ public final class AheadEdgesTest extends PoolChecks {
     }
     x.clear();
     due("cleared", x.digest(), digestOf(x, ""));
+  }
+
+  /** "met as Double.doubleToLongBits": 0, the least and the greatest share, and those about 1 and 2 */
+  private static void digestTellsTheShareMet() {
+    MeterPool x = new MeterPool();
+    supply(x, "500");
+    for (int house = 0; house < 10; house++) {
+      x.addHouse(0, 50);
+      x.buy(house, 100);
+    }
+    x.setHouse(0, 1, 1);
+    x.run(1);
+    check.dueDouble("451 of 451", x.met(), 1.0);
+    due("451 of 451", x.digest(), digestOf(x, ""));
+    for (int house = 1; house < 10; house++) {
+      x.setHouse(house, 1, 0);
+    }
+    check.dueDouble("451 of 1", x.met(), 451.0);
+    due("451 of 1", x.digest(), digestOf(x, ""));
+    MeterPool y = new MeterPool();
+    for (int house = 0; house < 10; house++) {
+      y.addHouse(0, house == 0 ? 1 : 50);
+    }
+    check.dueDouble("0 of 451", y.met(), 0.0);
+    due("0 of 451", y.digest(), digestOf(y, ""));
+    y.set(0, 1);
+    supply(y, "1");
+    y.run(1);
+    y.setHouse(0, 1, 50);
+    check.dueDouble("1 of 500", y.met(), 0.002);
+    due("1 of 500", y.digest(), digestOf(y, ""));
+    for (int demand = 1; demand <= 50; demand++) {
+      MeterPool z = rich(0, 20);
+      z.run(1);
+      z.setHouse(0, 1, demand);
+      check.dueDouble("20 of " + demand, z.met(), 20.0 / demand);
+      due("20 of " + demand, z.digest(), digestOf(z, ""));
+    }
   }
 
   /** "in long arithmetic with overflow": 31 to the power of 13 is already beyond a long */

@@ -75,7 +75,7 @@ public final class HistoryEdgesTest extends PoolChecks {
         x -> x.run(100), x -> x.load(), x -> x.back(1));
   }
 
-  /** The village with a third house, a list in the text, and no more than 4 states. */
+  /** The village with a third house, loans both ways, a list in the text, and 6 states. */
   private static MeterPool changeable() {
     MeterPool x = village();
     x.addHouse(0, 2);
@@ -86,6 +86,11 @@ public final class HistoryEdgesTest extends PoolChecks {
     }
     x.addHouse(2, 4);
     x.lend(1, 0, 2);
+    due("states", x.count(5), 6);
+    due("feeder 1 was shed", x.feeder(1, 4), 1);
+    for (int what = 0; what < 8; what++) {
+      check.holds("something in account " + what, x.account(what) > 0);
+    }
     return x;
   }
 

@@ -34,6 +34,7 @@ public final class HourEdgesTest extends PoolChecks {
     ascendingOrder();
     asMuchIsLeft();
     leastPart();
+    leastPartOfWhatItWants();
     leastPart0And100();
     nothingIsLeft();
     leftForThoseBehind();
@@ -49,6 +50,7 @@ public final class HourEdgesTest extends PoolChecks {
     fullBattery();
     rate0();
     chargeRoundedDown();
+    eachByItsOwn();
     spilled();
     noSupply();
     hourIncreases();
@@ -247,6 +249,16 @@ public final class HourEdgesTest extends PoolChecks {
     due("the first again", y.account(0), 644);
     y.run(100);
     due("twice more and 5", y.account(0), 644 + 98 * 3 + 2 * 500);
+    // Of a length that is no part of 48, beyond the hour 48.
+    MeterPool z = new MeterPool();
+    supply(z, "1,2,3,4,5");
+    int sum = 0;
+    for (int hour = 0; hour < 110; hour++) {
+      due("number of hour " + hour, z.supply(hour), 1 + hour % 5);
+      z.run(1);
+      sum += 1 + hour % 5;
+      due("sum after hour " + hour, z.account(0), sum);
+    }
   }
 
   /** "in the hour t (from 0 on)": the hour goes on when another list comes */
@@ -494,6 +506,22 @@ public final class HourEdgesTest extends PoolChecks {
     }
   }
 
+  /** The same: of what it wants, which may be less than its demand */
+  private static void leastPartOfWhatItWants() {
+    MeterPool x = new MeterPool();
+    x.addHouse(0, 14);
+    x.addHouse(0, 50);
+    x.buy(0, 100);
+    x.buy(1, 7);
+    // 6 are left: that is half of the 12 that it can draw, and less than a quarter of its demand.
+    due("half of what it wants", x.run(1), 20);
+    row("got", ofAll(x, 6), 14, 6);
+    row("reasons", ofAll(x, 7), 0, 2);
+    x.buy(1, 7);
+    due("less than half of it", x.run(1), 14);
+    row("got then", ofAll(x, 6), 14, 0);
+  }
+
   /** "3: the least part, in percent, 0 to 100": 0 and 100 */
   private static void leastPart0And100() {
     MeterPool x = rich(0, 19, 0, 50);
@@ -668,7 +696,8 @@ public final class HourEdgesTest extends PoolChecks {
     // Capacity, efficiency, taken, charge: x * efficiency / 100 is no more than the capacity, one more would be.
     int[][] rows = {{10, 90, 12, 10}, {9, 90, 11, 9}, {10, 50, 21, 10}, {1, 50, 3, 1}, {0, 50, 1, 0}, {0, 99, 1, 0},
         {0, 100, 0, 0}, {35, 90, 39, 35}, {10, 99, 11, 10}, {10, 100, 10, 10}, {10, 51, 21, 10}, {7, 67, 11, 7},
-        {2, 67, 4, 2}, {50, 51, 99, 50}, {49, 50, 99, 49}, {50, 50, 100, 50}};
+        {2, 67, 4, 2}, {50, 51, 99, 50}, {49, 50, 99, 49}, {50, 50, 100, 50},
+        {100, 100, 100, 100}, {99, 100, 99, 99}, {97, 98, 99, 97}, {89, 90, 99, 89}, {79, 80, 99, 79}, {80, 80, 100, 80}};
     for (int[] r : rows) {
       MeterPool x = oneBattery(r[0], 100, r[1]);
       supply(x, "200");
@@ -718,6 +747,25 @@ public final class HourEdgesTest extends PoolChecks {
       x.run(1);
       row(r[0] + " at " + r[1], accounts(x), 20, 0, r[0] - r[2], 20 - r[0], 0, r[2], 0, 0);
     }
+  }
+
+  /** The same: each of the two by its own rate, capacity and efficiency */
+  private static void eachByItsOwn() {
+    MeterPool x = new MeterPool();
+    supply(x, "200");
+    x.setBattery(0, 0, 300);
+    x.setBattery(0, 1, 31);
+    x.setBattery(0, 2, 100);
+    x.setBattery(1, 0, 20);
+    x.setBattery(1, 1, 37);
+    x.setBattery(1, 2, 51);
+    x.run(1);
+    row("31 and 18 of 37", accounts(x), 200, 0, 19, 132, 0, 31 + 18, 0, 0);
+    row("charges", ints(x.battery(0, 3), x.battery(1, 3)), 31, 18);
+    x.run(1);
+    // Battery 1 has room for 2: 5 * 51 / 100 is 2, 6 are 3.
+    row("31 and 2 of 5", accounts(x), 400, 0, 22, 296, 0, 62 + 20, 0, 0);
+    row("charges then", ints(x.battery(0, 3), x.battery(1, 3)), 62, 20);
   }
 
   /** "What no battery takes is spilled.": all of it, some of it, none of it */
@@ -797,6 +845,9 @@ public final class HourEdgesTest extends PoolChecks {
     supply(x, "0");
     x.run(1);
     row("reasons then", ofAll(x, 7), 1, 3, 3);
+    x.setHouse(1, 3, 0);
+    x.run(1);
+    row("no more what they were", ofAll(x, 7), 1, 1, 3);
   }
 
   /** "2: it could draw less than its demand .. because of its credit (also if it then got that, or less, or its ..)" */
@@ -826,6 +877,25 @@ public final class HourEdgesTest extends PoolChecks {
     z.run(1);
     row("feeder 2's turn was first", ints(z.feeder(1, 4), z.feeder(2, 4)), 1, 0);
     row("with just enough credit", ofAll(z, 7), 3, 4);
+    beginningOfTheHour();
+  }
+
+  /** The same "at the beginning of the hour": what it gets leaves less than its demand, and that is another hour's */
+  private static void beginningOfTheHour() {
+    MeterPool x = new MeterPool();
+    supply(x, "6");
+    x.addHouse(0, 10);
+    x.buy(0, 5);
+    x.run(1);
+    row("a part of what it could draw", ints(x.house(0, 6), x.house(0, 7), x.house(0, 5)), 6, 4, 4);
+    x.run(1);
+    row("an hour later", ints(x.house(0, 6), x.house(0, 7), x.house(0, 5)), 4, 2, 0);
+    MeterPool y = new MeterPool();
+    supply(y, "10");
+    y.addHouse(0, 10);
+    y.buy(0, 5);
+    y.run(1);
+    row("all that it could draw", ints(y.house(0, 6), y.house(0, 7), y.house(0, 5)), 10, 0, 0);
   }
 
   /** "3: its feeder was shed": that of another house was not */

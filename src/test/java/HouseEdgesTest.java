@@ -334,8 +334,14 @@ public final class HouseEdgesTest extends PoolChecks {
     due("debt", x.setHouse(0, 2, 0), 0);
     due("connected", x.setHouse(0, 3, 1), 1);
     due("setting", x.set(1, 40), 40);
-    due("battery", x.setBattery(1, 1, 20), 20);
-    due("states", x.count(5), 7);
+    due("states", x.count(5), 6);
+    x.undo();
+    x.undo();
+    x.undo();
+    due("capacity", x.setBattery(1, 0, 0), 0);
+    due("rate", x.setBattery(1, 1, 20), 20);
+    due("efficiency", x.setBattery(1, 2, 90), 90);
+    due("states then", x.count(5), 6);
   }
 
   /** "Removes a house; the numbers of the later ones decrease by 1": of all of them */

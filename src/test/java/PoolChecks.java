@@ -108,22 +108,29 @@ abstract class PoolChecks {
     return row;
   }
 
-  /** Two houses with an hour behind them, loans both ways, charges, a text with a fault, a full history, image 1. */
+  /** Two houses with something in every account, feeder 1 shed, loans both ways, a full history, image 1, a fault. */
   static MeterPool village() {
     MeterPool x = new MeterPool();
     x.setBattery(0, 0, 40);
     x.setBattery(1, 0, 30);
+    x.setBattery(0, 1, 2);
+    x.setBattery(1, 1, 2);
     x.addHouse(1, 6);
     x.addHouse(2, 9);
     x.buy(0, 60);
     x.buy(1, 45);
     x.lend(0, 1, 7);
-    x.keep(1);
-    x.run(2);
-    x.lend(1, 0, 5);
     x.setHouse(1, 2, 30);
+    x.buy(1, 10);
+    x.run(2);
+    x.setBattery(0, 0, 1);
+    x.keep(1);
+    x.setHouse(0, 1, 12);
+    x.setHouse(1, 1, 19);
     x.run(1);
+    x.lend(1, 0, 5);
     x.set(3, 20);
+    x.set(2, 60);
     typeAll(x, "12*3,");
     return x;
   }

@@ -18,6 +18,8 @@ public final class RandomRunsTest {
 
   private final Check check = new Check();
   private long seed;
+  // Whether the least and the greatest number of a range, and those just outside, come more often than usual.
+  private boolean atEdges;
   // What is still to be typed of a list that the run means to load.
   private String planned = "";
 
@@ -40,10 +42,11 @@ public final class RandomRunsTest {
   private void oneRun(int run) {
     seed = 77777L * run + 5;
     planned = "";
+    atEdges = run % 3 == 2;
     MeterPool x = new MeterPool();
     Model y = new Model();
     int[] weights = WEIGHTS[run % WEIGHTS.length];
-    int houses = below(4) * 3;
+    int houses = atEdges ? 10 : below(4) * 3;
     StringBuilder told = new StringBuilder();
     for (int i = 0; i < CALLS; i++) {
       int call = i < houses ? 0 : pick(weights);
@@ -76,7 +79,7 @@ public final class RandomRunsTest {
 
   /** Mostly a number from 0 to most, now and then one just outside or far outside. */
   private int around(int least, int most) {
-    switch (below(40)) {
+    switch (below(atEdges ? 12 : 40)) {
       case 0:
         return least - 1;
       case 1:

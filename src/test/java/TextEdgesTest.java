@@ -171,6 +171,9 @@ public final class TextEdgesTest extends PoolChecks {
     fault("7*00", 2);
     fault("7*02", 2);
     fault("7*010", 2);
+    fault("3,7*0", 4);
+    fault("3,7*02", 4);
+    fault("3,7*010", 4);
     whole("7*20");
   }
 

@@ -25,6 +25,7 @@ public final class TokenEdgesTest extends PoolChecks {
     lessThanUnits();
     overdraftIsNotLent();
     goesFromTheOneToTheOther();
+    lendInAnyCondition();
     twelveLoans();
     fullComesAndGoes();
     numberedFrom0();
@@ -140,6 +141,17 @@ public final class TokenEdgesTest extends PoolChecks {
       due("owed at " + r[0], x.house(1, 9), r[1]);
       row("lenders at " + r[0], ints(x.house(0, 4), x.house(2, 4)), 100, 100 - r[1]);
     }
+    // The greatest token, and the greatest loans: all of 500 goes to three of twelve.
+    MeterPool y = withCredit(500, 0);
+    y.set(2, 100);
+    for (int i = 0; i < 12; i++) {
+      y.buy(0, 200);
+      y.lend(0, 1, 200);
+    }
+    due("owed", y.house(1, 9), 2400);
+    due("nothing remains", y.buy(1, 500), 2400);
+    row("two are paid and half of one", ints(y.count(1), y.house(1, 9), y.loan(0, 2)), 10, 1900, 100);
+    due("the lender", y.house(0, 4), 1000);
   }
 
   /** "all divisions are rounded down": the share for loans */
@@ -346,6 +358,21 @@ public final class TokenEdgesTest extends PoolChecks {
     due("no more negative ones", x.count(7), 0);
     due("the lender", x.house(1, 4), 194);
     due("no token", x.account(6), 200);
+  }
+
+  /** Promise 6 names no other condition: debts, loans, a negative credit and no connection are none */
+  private static void lendInAnyCondition() {
+    MeterPool x = withCredit(50, 0);
+    x.setHouse(0, 2, 1000);
+    x.setHouse(1, 2, 1000);
+    due("with debts", x.lend(0, 1, 5), 1);
+    x.setHouse(0, 3, 0);
+    x.setHouse(1, 3, 0);
+    due("not connected", x.lend(0, 1, 5), 2);
+    due("the other way round", x.lend(1, 0, 2), 3);
+    row("debts stay", ofAll(x, 2), 1000, 1000);
+    row("credits", ofAll(x, 4), 42, 8);
+    row("each its own", ints(x.loan(0, 2), x.loan(1, 2), x.loan(2, 2)), 5, 5, 2);
   }
 
   /** "There are at most 12 loans" and "FULL if there are 12 loans" */
