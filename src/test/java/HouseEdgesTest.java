@@ -409,6 +409,16 @@ public final class HouseEdgesTest extends PoolChecks {
     // 20 of the token go to the loans of house 2 now: the lender is house 0.
     due("a token", x.buy(2, 20), 500);
     row("credits", ofAll(x, 4), 490, 530, 500);
+    // As many loans as there can be.
+    MeterPool y = rich(0, 1, 0, 2, 0, 3);
+    for (int i = 0; i < 12; i++) {
+      y.lend(1 + i % 2, 2 - i % 2, 1 + i);
+    }
+    due("twelve", y.removeHouse(0), 2);
+    for (int i = 0; i < 12; i++) {
+      row("loan " + i, loanRow(y, i), i % 2, 1 - i % 2, 1 + i);
+    }
+    due("no thirteenth", y.loan(12, 0), BAD);
   }
 
   /** "STATE if it is the lender or the borrower of a loan": no more when the loan is gone, in whatever way */

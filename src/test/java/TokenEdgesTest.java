@@ -42,6 +42,8 @@ public final class TokenEdgesTest extends PoolChecks {
     lowestSecondOne();
     foundAnew();
     twelveNetted();
+    twelveWithoutAPair();
+    goneLoansAreNotNetted();
     accountsOfTokens();
     check.end();
   }
@@ -651,6 +653,41 @@ public final class TokenEdgesTest extends PoolChecks {
     due("none is left", y.count(1), 0);
     due("taken back", y.undo(), 7);
     due("all are there", y.count(1), 12);
+  }
+
+  /** The same, none of them in a pair */
+  private static void twelveWithoutAPair() {
+    MeterPool x = withCredit(100, 100, 100);
+    for (int i = 0; i < 12; i++) {
+      x.lend(i % 3, (i + 1) % 3, 5);
+    }
+    due("no pair", x.net(), 0);
+    due("all are there", x.count(1), 12);
+    x.remit(0);
+    x.remit(10);
+    due("a pair", x.lend(1, 0, 3), 11);
+    // 0 lent to 1 three times more: the first of these is number 2.
+    due("the pair alone", x.net(), 3);
+    row("the first of them", loanRow(x, 2), 0, 1, 2);
+    due("the other one is gone", x.count(1), 10);
+  }
+
+  /** "one that is paid wholly is gone", and one that is remitted too: neither is netted any more */
+  private static void goneLoansAreNotNetted() {
+    MeterPool x = withCredit(100, 100);
+    x.lend(0, 1, 5);
+    x.lend(1, 0, 7);
+    due("remitted", x.remit(1), 7);
+    due("no pair", x.net(), 0);
+    row("it stays", loanRow(x, 0), 0, 1, 5);
+    x.lend(1, 0, 7);
+    x.buy(0, 14);
+    due("paid", x.count(1), 1);
+    due("no pair again", x.net(), 0);
+    x.lend(1, 0, 7);
+    x.undo();
+    due("no pair as it was taken back", x.net(), 0);
+    row("owed", ints(x.house(0, 9), x.house(1, 9)), 0, 5);
   }
 
   /** "6 for all units of tokens, 7 for what was paid to the pool for debts": 0 at first, and neither loans nor credit */
